@@ -5,6 +5,7 @@ public final class Promise07LockTest {
         noSuchPackOrVersion();
         lockedVersionIsBest();
         locksOfOthersAreBestToo();
+        noneIsNoLock();
         behindALockTheRestIsAsEver();
         locksForceNothing();
         orderIsStrongerThanLocks();
@@ -57,6 +58,16 @@ public final class Promise07LockTest {
         due.solves("two locks", x, 0, 5);
         x.lock(0, -1);
         due.solves("one lock is taken back", x, -1, 5);
+    }
+
+    private static void noneIsNoLock() {
+        ConflictSolve x = Due.withPacks(3, 3);
+        x.demand(0, 0, 7);
+        x.or(1, 7);
+        x.lock(0, -1);
+        x.lock(1, 0);
+        x.lock(1, -1);
+        due.solves("NONE doesn't become the best", x, 2, 2);
     }
 
     private static void behindALockTheRestIsAsEver() {
