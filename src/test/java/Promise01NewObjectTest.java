@@ -5,6 +5,10 @@ public final class Promise01NewObjectTest {
         constantIsAsTold();
         nothingIsThere();
         objectsAreApart();
+        noPackages();
+        noRows();
+        noDemands();
+        noLocks();
         due.end();
     }
 
@@ -44,5 +48,55 @@ public final class Promise01NewObjectTest {
         due.is("demand of another object", y.demand(0, 0, 7), 0);
         due.solves("another object", y, 2);
         due.chosen("the one object", x, 0, -1);
+    }
+
+    /** "No packages": all eight can still come. */
+    private static void noPackages() {
+        ConflictSolve x = new ConflictSolve();
+        for (int pack = 0; pack < 8; pack++) {
+            due.is("a new object: must(" + pack + ")", x.must(pack), false);
+            due.is("a new object: can(" + pack + ", NONE)", x.can(pack, -1), false);
+            due.is("a new object: pack " + pack, x.pack(6), pack);
+        }
+        due.is("a new object: a ninth pack", x.pack(6), -1);
+    }
+
+    /** "No rows": or() has none to go to, every version can be, and 120 can still come. */
+    private static void noRows() {
+        ConflictSolve x = Due.withPacks(6, 6);
+        due.is("a new object: or()", x.or(0, 63), false);
+        for (int version = -1; version < 6; version++) {
+            due.is("a new object: can(0, " + version + ")", x.can(0, version), true);
+            due.is("a new object: can(1, " + version + ")", x.can(1, version), true);
+        }
+        for (int i = 0; i < 120; i++) {
+            due.is("a new object: row " + i, x.row(0, 5, 0, 1, 63), true);
+        }
+        due.is("a new object: row 120", x.row(0, 5, 0, 1, 63), false);
+    }
+
+    /** "No demands": none to leave out or to blame, no package is needed, and 12 can still come. */
+    private static void noDemands() {
+        ConflictSolve x = Due.withPacks(2);
+        for (int demand = 0; demand < 12; demand++) {
+            due.is("a new object: leaveOut(" + demand + ", true)", x.leaveOut(demand, true), false);
+            due.is("a new object: leaveOut(" + demand + ", false)", x.leaveOut(demand, false), false);
+        }
+        due.blames("a new object", x);
+        due.solves("a new object", x, -1);
+        for (int demand = 0; demand < 12; demand++) {
+            due.is("a new object: demand " + demand, x.demand(0, 0, 3), demand);
+        }
+        due.is("a new object: demand 12", x.demand(0, 0, 3), -1);
+    }
+
+    /** "No locks": needed packages have their newest version, others NONE. */
+    private static void noLocks() {
+        ConflictSolve x = Due.withPacks(6, 5, 4, 3, 2, 1, 6, 6);
+        due.solves("a new object, none needed", x, -1, -1, -1, -1, -1, -1, -1, -1);
+        for (int pack = 0; pack < 8; pack++) {
+            x.demand(0, pack, 63);
+        }
+        due.solves("a new object, all needed", x, 5, 4, 3, 2, 1, 0, 5, 5);
     }
 }

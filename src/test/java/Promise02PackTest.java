@@ -6,6 +6,10 @@ public final class Promise02PackTest {
         wrongCountsMakeNothing();
         versionsAreThoseTold();
         laterPacksAreTakenIn();
+        fewestAndMostVersions();
+        tooFewOrTooManyVersions();
+        noneIfThereAreEight();
+        theEighthIsWhole();
         due.end();
     }
 
@@ -54,5 +58,53 @@ public final class Promise02PackTest {
         due.is("can of a later pack", x.can(1, 2), true);
         x.demand(0, 1, 7);
         due.solves("two packs", x, 0, 2);
+    }
+
+    /** "It isn't 0 .. 6": the edges themselves are fine. */
+    private static void fewestAndMostVersions() {
+        ConflictSolve x = new ConflictSolve();
+        due.is("pack(0)", x.pack(0), 0);
+        due.is("pack(6)", x.pack(6), 1);
+        due.is("a package without versions: can(0, 0)", x.can(0, 0), false);
+        due.is("a package without versions: can(0, NONE)", x.can(0, -1), true);
+        due.is("a package of six: can(1, 5)", x.can(1, 5), true);
+        due.is("a package of six: can(1, 6)", x.can(1, 6), false);
+        due.solves("two packages", x, -1, -1);
+    }
+
+    /** "NONE if .. it isn't 0 .. 6", and no number is used up by it. */
+    private static void tooFewOrTooManyVersions() {
+        for (int versions : Due.outside(0, 6)) {
+            String call = "pack(" + versions + ")";
+            due.refuses(call, ConflictSolve::new, x -> x.pack(versions), -1);
+            due.refuses(call, Scenes::behindARow, x -> x.pack(versions), -1);
+        }
+    }
+
+    /** "NONE if there are 8", whatever it is that is asked for. */
+    private static void noneIfThereAreEight() {
+        for (int versions = -1; versions <= 7; versions++) {
+            int count = versions;
+            String call = "a ninth pack(" + versions + ")";
+            due.refuses(call, Scenes::fullByARow, x -> x.pack(count), -1);
+            due.refuses(call, Scenes::fullByADemand, x -> x.pack(count), -1);
+        }
+    }
+
+    /** "PACKAGES, at most 8": the last one can do what the others can. */
+    private static void theEighthIsWhole() {
+        ConflictSolve x = Due.withPacks(1, 1, 1, 1, 1, 1, 1);
+        due.is("can(7, NONE) before it is there", x.can(7, -1), false);
+        due.is("the eighth", x.pack(6), 7);
+        due.is("demand on the eighth", x.demand(0, 7, 62), 0);
+        due.is("row of the eighth", x.row(7, 5, 0, 7, 31), true);
+        due.solves("the eighth", x, -1, -1, -1, -1, -1, -1, -1, 4);
+        due.is("lock of the eighth", x.lock(7, 1), true);
+        due.solves("the eighth, locked", x, -1, -1, -1, -1, -1, -1, -1, 1);
+        due.is("must(7)", x.must(7), true);
+        due.is("can(7, 0)", x.can(7, 0), false);
+        due.is("row on the eighth", x.row(0, 0, 1, 7, 32), true);
+        due.is("or on the eighth", x.or(7, 1), false);
+        due.is("can(7, 5)", x.can(7, 5), false);
     }
 }

@@ -1,3 +1,5 @@
+import java.util.function.Supplier;
+
 public final class Promise03RowTest {
     private static final Due due = new Due("promise 3");
 
@@ -11,6 +13,13 @@ public final class Promise03RowTest {
         rowsCountAtTheirVersionAlone();
         rowsOfTheSamePackage();
         otherBitsMeanNothing();
+        noSuchPackage();
+        noSuchVersion();
+        noSuchKind();
+        noSuchOther();
+        noMoreThan120();
+        refusedRowsTakeNoRoom();
+        packagesThatComeLater();
         due.end();
     }
 
@@ -148,5 +157,109 @@ public final class Promise03RowTest {
         due.is("versions of the next package", x.can(2, 5), true);
         x.row(0, 0, 0, 1, 0xfffffffc);
         due.is("need of versions that aren't there", x.solve(), 0);
+    }
+
+    /** "False if there are none such": the package that the row is of. */
+    private static void noSuchPackage() {
+        for (Supplier<ConflictSolve> scene : Scenes.small()) {
+            for (int pack : Due.outside(0, 3)) {
+                due.refuses("row(" + pack + ", 0, 0, 0, 0)", scene, x -> answer(x, pack, 0, 0, 0), 0);
+            }
+        }
+    }
+
+    /** "False if there are none such": the version, for every count of versions. */
+    private static void noSuchVersion() {
+        for (int versions = 0; versions <= 6; versions++) {
+            int count = versions;
+            Supplier<ConflictSolve> scene = () -> Due.withPacks(6, count, 6);
+            for (int version : Due.outside(0, count - 1)) {
+                String call = count + " versions: row(1, " + version + ", 0, 0, 0)";
+                due.refuses(call, scene, x -> answer(x, 1, version, 0, 0), 0);
+            }
+            if (count > 0) {
+                due.is("the oldest of " + count, scene.get().row(1, 0, 0, 0, 0), true);
+                due.is("the newest of " + count, scene.get().row(1, count - 1, 0, 0, 0), true);
+            }
+        }
+        due.refuses("a row of NONE", Scenes::behindARow, x -> answer(x, 0, -1, 0, 0), 0);
+    }
+
+    /** "False if there are none such": the kind. */
+    private static void noSuchKind() {
+        for (Supplier<ConflictSolve> scene : Scenes.small()) {
+            for (int kind : Due.outside(0, 2)) {
+                due.refuses("row(0, 0, " + kind + ", 0, 0)", scene, x -> answer(x, 0, 0, kind, 0), 0);
+            }
+        }
+    }
+
+    /** "False if there are none such": the package that the row is about. */
+    private static void noSuchOther() {
+        for (int kind = 0; kind < 3; kind++) {
+            int fine = kind;
+            for (int other : Due.outside(0, 3)) {
+                String call = "row(0, 0, " + kind + ", " + other + ", 0)";
+                due.refuses(call, Scenes::behindADemand, x -> answer(x, 0, 0, fine, other), 0);
+            }
+        }
+    }
+
+    /** "False if .. 120 rows": the 120th is taken, the 121st of any kind isn't. */
+    private static void noMoreThan120() {
+        for (int kind = 0; kind < 3; kind++) {
+            int fine = kind;
+            int held = kind == 1 ? 0 : 1;
+            ConflictSolve room = Due.withPacks(1);
+            for (int i = 0; i < 119; i++) {
+                due.is("row " + i + ", of kind " + kind, room.row(0, 0, kind, 0, held), true);
+            }
+            due.is("119 rows that hold", room.can(0, 0), true);
+            due.is("the 120th row, of kind " + kind, room.row(0, 0, kind, 0, 1 - held), true);
+            due.is("the 120th row doesn't hold", room.can(0, 0), false);
+            due.is("the 121st row, of kind " + kind, room.row(0, 0, kind, 0, held), false);
+            String call = "the 121st row(0, 0, " + kind + ", 0, 0)";
+            due.refuses(call, Scenes::fullByARow, x -> answer(x, 0, 0, fine, 0), 0);
+            due.refuses(call, Scenes::fullByADemand, x -> answer(x, 0, 0, fine, 0), 0);
+        }
+        ConflictSolve alternatives = Due.withPacks(1);
+        for (int i = 0; i < 120; i++) {
+            due.is("row " + i, alternatives.row(0, 0, 0, 0, 0), true);
+            due.is("alternatives are no rows", alternatives.or(0, 0), true);
+        }
+        due.is("the 121st row", alternatives.row(0, 0, 0, 0, 0), false);
+    }
+
+    /** Refused ones aren't among the 120. */
+    private static void refusedRowsTakeNoRoom() {
+        ConflictSolve x = Due.withPacks(1);
+        for (int i = 0; i < 30; i++) {
+            due.is("no package", x.row(1, 0, 0, 0, 1), false);
+            due.is("no version", x.row(0, 1, 0, 0, 1), false);
+            due.is("no kind", x.row(0, 0, 3, 0, 1), false);
+            due.is("no other", x.row(0, 0, 0, 1, 1), false);
+        }
+        for (int i = 0; i < 120; i++) {
+            due.is("row " + i + " behind refused ones", x.row(0, 0, 0, 0, 1), true);
+        }
+        due.is("row 120 behind refused ones", x.row(0, 0, 0, 0, 1), false);
+    }
+
+    /** "There are none such" is as by now: a package isn't there before pack(). */
+    private static void packagesThatComeLater() {
+        ConflictSolve x = Due.withPacks(2);
+        due.is("row of a package to come", x.row(1, 0, 0, 0, 1), false);
+        due.is("row on a package to come", x.row(0, 1, 0, 1, 1), false);
+        x.pack(1);
+        x.demand(0, 0, 2);
+        due.solves("neither of them was taken", x, 1, -1);
+        due.is("row on it now", x.row(0, 1, 0, 1, 1), true);
+        due.solves("row on it now", x, 1, 0);
+        due.is("row of it now", x.row(1, 0, 0, 0, 1), true);
+        due.is("row of it now: solve()", x.solve(), 0);
+    }
+
+    private static int answer(ConflictSolve x, int pack, int version, int kind, int other) {
+        return x.row(pack, version, kind, other, 0) ? 1 : 0;
     }
 }

@@ -1,3 +1,5 @@
+import java.util.function.Supplier;
+
 public final class Promise04DemandTest {
     private static final Due due = new Due("promise 4");
 
@@ -8,6 +10,11 @@ public final class Promise04DemandTest {
         otherBitsMeanNothing();
         orderIsThatOfTheDemands();
         onlyNeedsMakeNeeded();
+        noSuchKind();
+        noSuchPackage();
+        noMoreThan12();
+        refusedDemandsTakeNoNumber();
+        packagesThatComeLater();
         due.end();
     }
 
@@ -112,5 +119,73 @@ public final class Promise04DemandTest {
         z.demand(0, 0, 0);
         z.leaveOut(0, true);
         due.solves("need of an empty set, left out", z, 2, -1);
+    }
+
+    /** "NONE if there are none such": the kind. */
+    private static void noSuchKind() {
+        for (Supplier<ConflictSolve> scene : Scenes.small()) {
+            for (int kind : Due.outside(0, 2)) {
+                due.refuses("demand(" + kind + ", 0, 0)", scene, x -> x.demand(kind, 0, 0), -1);
+            }
+        }
+    }
+
+    /** "NONE if there are none such": the package, whatever the kind. */
+    private static void noSuchPackage() {
+        for (int pack : Due.outside(0, 3)) {
+            for (int kind = 0; kind < 3; kind++) {
+                int fine = kind;
+                String call = "demand(" + kind + ", " + pack + ", 0)";
+                due.refuses(call, Scenes::behindARow, x -> x.demand(fine, pack, 0), -1);
+                due.refuses(call, Scenes::behindADemand, x -> x.demand(fine, pack, 0), -1);
+            }
+        }
+    }
+
+    /** "NONE if .. 12": the twelfth is taken, the 13th of any kind isn't. */
+    private static void noMoreThan12() {
+        for (int kind = 0; kind < 3; kind++) {
+            int fine = kind;
+            ConflictSolve x = Due.withPacks(1);
+            for (int i = 0; i < 12; i++) {
+                due.is("demand " + i + " of kind " + kind, x.demand(kind, 0, 1), i);
+            }
+            due.is("demand 12 of kind " + kind, x.demand(kind, 0, 1), -1);
+            String call = "the 13th demand(" + kind + ", 5, 0)";
+            due.refuses(call, Scenes::fullByARow, y -> y.demand(fine, 5, 0), -1);
+            due.refuses(call, Scenes::fullByADemand, y -> y.demand(fine, 5, 0), -1);
+        }
+        ConflictSolve alternatives = Due.withPacks(1);
+        for (int i = 0; i < 12; i++) {
+            due.is("demand " + i, alternatives.demand(0, 0, 0), i);
+            due.is("alternatives are no demands", alternatives.or(0, 1), true);
+        }
+        due.is("the 13th demand", alternatives.demand(0, 0, 0), -1);
+        due.solves("twelve demands with alternatives", alternatives, 0);
+    }
+
+    /** "Numbered from 0": by those that were taken. */
+    private static void refusedDemandsTakeNoNumber() {
+        ConflictSolve x = Due.withPacks(1);
+        for (int i = 0; i < 12; i++) {
+            due.is("no kind", x.demand(3, 0, 1), -1);
+            due.is("no kind", x.demand(-1, 0, 1), -1);
+            due.is("no package", x.demand(0, 1, 1), -1);
+            due.is("no package", x.demand(0, -1, 1), -1);
+            due.is("leaveOut(" + i + ", true) before it is there", x.leaveOut(i, true), false);
+            due.is("demand " + i + " behind refused ones", x.demand(0, 0, 1), i);
+        }
+        due.solves("twelve demands", x, 0);
+    }
+
+    /** "There are none such" is as by now: a package isn't there before pack(). */
+    private static void packagesThatComeLater() {
+        ConflictSolve x = new ConflictSolve();
+        for (int pack = 0; pack < 8; pack++) {
+            due.is("demand on package " + pack + " to come", x.demand(0, pack, 1), -1);
+            x.pack(1);
+            due.is("demand on package " + pack + " now", x.demand(0, pack, 1), pack);
+        }
+        due.solves("eight demands", x, 0, 0, 0, 0, 0, 0, 0, 0);
     }
 }

@@ -1,3 +1,5 @@
+import java.util.function.Supplier;
+
 public final class Promise05OrTest {
     private static final Due due = new Due("promise 5");
 
@@ -10,6 +12,14 @@ public final class Promise05OrTest {
         eachAlternativeKeepsTheNeed();
         alternativesOfRowsMakeNothingNeeded();
         alternativesStandInTheOrder();
+        noRowOrDemand();
+        latestIsNoNeed();
+        hasThree();
+        noSuchPackage();
+        theLastRowAndTheLastDemand();
+        emptyAlternatives();
+        alternativesOfLeftOutDemands();
+        packagesThatComeLater();
         due.end();
     }
 
@@ -157,5 +167,128 @@ public final class Promise05OrTest {
         y.or(0, 3);
         y.or(1, 3);
         due.solves("order 2, 0, 1", y, 0, 0, 1);
+    }
+
+    /** "The latest row or DEMAND": there may be none yet. */
+    private static void noRowOrDemand() {
+        due.refuses("or(0, 1) of nothing", ConflictSolve::new, x -> answer(x, 0, 1), 0);
+        due.refuses("or(0, 1) of packages alone", () -> Due.withPacks(2, 2), x -> answer(x, 0, 1), 0);
+        Supplier<ConflictSolve> refusedOnes = () -> {
+            ConflictSolve x = Due.withPacks(2, 2);
+            x.row(0, 2, 0, 1, 0);
+            x.demand(0, 2, 0);
+            return x;
+        };
+        due.refuses("or(0, 1) of refused ones", refusedOnes, x -> answer(x, 0, 1), 0);
+    }
+
+    /** "False if that is no NEED": even if the one before it is. */
+    private static void latestIsNoNeed() {
+        for (int kind = 1; kind < 3; kind++) {
+            int fine = kind;
+            Supplier<ConflictSolve> row = () -> {
+                ConflictSolve x = Due.withPacks(2, 2);
+                x.demand(0, 0, 2);
+                x.row(0, 1, 0, 1, 1);
+                x.row(0, 1, fine, 1, 2);
+                return x;
+            };
+            due.refuses("or() of a row of kind " + kind, row, x -> answer(x, 1, 2), 0);
+            Supplier<ConflictSolve> demand = () -> {
+                ConflictSolve x = Due.withPacks(2, 2);
+                x.row(0, 1, 0, 1, 1);
+                x.demand(0, 0, 2);
+                x.demand(fine, 1, 2);
+                return x;
+            };
+            due.refuses("or() of a demand of kind " + kind, demand, x -> answer(x, 1, 2), 0);
+        }
+    }
+
+    /** "Has three (with the first)": the second and third are taken, the fourth isn't. */
+    private static void hasThree() {
+        Supplier<ConflictSolve> demand = () -> {
+            ConflictSolve x = Due.withPacks(2, 2, 2, 2);
+            x.demand(0, 0, 0);
+            due.is("second of a demand", x.or(1, 0), true);
+            due.is("third of a demand", x.or(2, 0), true);
+            return x;
+        };
+        Supplier<ConflictSolve> row = () -> {
+            ConflictSolve x = Due.withPacks(2, 2, 2, 2);
+            x.demand(0, 0, 2);
+            x.row(0, 1, 0, 0, 0);
+            due.is("second of a row", x.or(1, 0), true);
+            due.is("third of a row", x.or(2, 0), true);
+            return x;
+        };
+        for (int pack = 0; pack < 4; pack++) {
+            int fine = pack;
+            due.refuses("fourth of a demand: or(" + pack + ", 3)", demand, x -> answer(x, fine, 3), 0);
+            due.refuses("fourth of a row: or(" + pack + ", 3)", row, x -> answer(x, fine, 3), 0);
+        }
+    }
+
+    /** "Or there is no such package": and no alternative is used up by it. */
+    private static void noSuchPackage() {
+        for (Supplier<ConflictSolve> scene : Scenes.small()) {
+            for (int pack : Due.outside(0, 3)) {
+                due.refuses("or(" + pack + ", 63)", scene, x -> answer(x, pack, 63), 0);
+            }
+        }
+    }
+
+    /** "Whichever came last": also when no row or demand can come any more. */
+    private static void theLastRowAndTheLastDemand() {
+        ConflictSolve x = Scenes.fullByARow();
+        due.is("a 121st row", x.row(0, 0, 1, 0, 1), false);
+        due.is("a 13th demand", x.demand(1, 0, 1), -1);
+        due.is("second of the 120th row", x.or(7, 1), true);
+        due.is("third of the 120th row", x.or(7, 1), true);
+        due.is("fourth of the 120th row", x.or(7, 1), false);
+        ConflictSolve y = Scenes.fullByADemand();
+        due.is("a 121st row", y.row(0, 0, 1, 0, 1), false);
+        due.is("a 13th demand", y.demand(1, 0, 1), -1);
+        due.is("second of the twelfth demand", y.or(7, 1), true);
+        due.is("third of the twelfth demand", y.or(7, 1), true);
+        due.is("fourth of the twelfth demand", y.or(7, 1), false);
+    }
+
+    /** An alternative with an empty SET is one of the three, but holds never. */
+    private static void emptyAlternatives() {
+        ConflictSolve x = Due.withPacks(2);
+        x.demand(0, 0, 0);
+        due.is("an empty second", x.or(0, 0), true);
+        due.is("two that are empty", x.solve(), 0);
+        due.is("a third that isn't", x.or(0, 1), true);
+        due.solves("a third that isn't", x, 0);
+        due.is("a fourth", x.or(0, 2), false);
+        due.solves("a fourth", x, 0);
+    }
+
+    /** A demand that is left out is still the latest. */
+    private static void alternativesOfLeftOutDemands() {
+        ConflictSolve x = Due.withPacks(2, 2);
+        x.demand(0, 0, 0);
+        x.leaveOut(0, true);
+        due.is("or of a demand that is left out", x.or(1, 1), true);
+        due.solves("a package that it needs", x, 1, 1);
+        x.leaveOut(0, false);
+        due.solves("it counts again", x, 1, 0);
+        due.blames("it counts again", x);
+    }
+
+    /** "No such package" is as by now: a package isn't there before pack(). */
+    private static void packagesThatComeLater() {
+        ConflictSolve x = Due.withPacks(2);
+        x.demand(0, 0, 0);
+        due.is("or on a package to come", x.or(1, 1), false);
+        x.pack(2);
+        due.is("or on it now", x.or(1, 1), true);
+        due.solves("or on it now", x, 1, 0);
+    }
+
+    private static int answer(ConflictSolve x, int pack, int set) {
+        return x.or(pack, set) ? 1 : 0;
     }
 }

@@ -1,3 +1,5 @@
+import java.util.function.Supplier;
+
 public final class Promise07LockTest {
     private static final Due due = new Due("promise 7");
 
@@ -9,6 +11,11 @@ public final class Promise07LockTest {
         behindALockTheRestIsAsEver();
         locksForceNothing();
         orderIsStrongerThanLocks();
+        falseIfThereIsNoSuchPackage();
+        falseIfThereIsNoSuchVersion();
+        noneWhereThereIsNoLock();
+        oneLockAPackage();
+        packagesThatComeLater();
         due.end();
     }
 
@@ -112,5 +119,86 @@ public final class Promise07LockTest {
         due.solves("locks of others go by number", y, 0, -1, -1);
         y.demand(0, 1, 3);
         due.solves("a needed one goes first", y, -1, 1, -1);
+    }
+
+    /** "False if there is no such package": with a version, and with NONE. */
+    private static void falseIfThereIsNoSuchPackage() {
+        for (Supplier<ConflictSolve> scene : Scenes.small()) {
+            for (int pack : Due.outside(0, 3)) {
+                due.refuses("lock(" + pack + ", 0)", scene, x -> answer(x, pack, 0), 0);
+                due.refuses("lock(" + pack + ", NONE)", scene, x -> answer(x, pack, -1), 0);
+            }
+        }
+    }
+
+    /** "False if there is no such .. version": and the lock that was there stays. */
+    private static void falseIfThereIsNoSuchVersion() {
+        for (int versions = 0; versions <= 6; versions++) {
+            int count = versions;
+            Supplier<ConflictSolve> scene = () -> {
+                ConflictSolve x = Due.withPacks(6, count, 6);
+                x.lock(0, 3);
+                x.lock(1, count / 2);
+                x.lock(2, 2);
+                return x;
+            };
+            for (int version : Due.outside(-1, count - 1)) {
+                String call = count + " versions: lock(1, " + version + ")";
+                due.refuses(call, scene, x -> answer(x, 1, version), 0);
+            }
+            for (int version = 0; version < count; version++) {
+                ConflictSolve x = scene.get();
+                due.is(count + " versions: lock(1, " + version + ")", x.lock(1, version), true);
+                due.solves(count + " versions: lock(1, " + version + ")", x, 3, version, 2);
+            }
+        }
+    }
+
+    /** "NONE: it has none": true also where there was no lock, or there are no versions. */
+    private static void noneWhereThereIsNoLock() {
+        ConflictSolve x = Due.withPacks(3, 0);
+        x.demand(0, 0, 7);
+        due.is("lock(0, NONE)", x.lock(0, -1), true);
+        due.is("lock(1, NONE)", x.lock(1, -1), true);
+        due.solves("no lock", x, 2, -1);
+        due.is("NONE isn't locked", x.can(0, 1), true);
+        due.same("NONE where there is no lock", x, noneWasNotTold());
+    }
+
+    private static ConflictSolve noneWasNotTold() {
+        ConflictSolve x = Due.withPacks(3, 0);
+        x.demand(0, 0, 7);
+        x.solve();
+        return x;
+    }
+
+    /** "The LOCK of a package": a new one takes the place of the old one, of this package alone. */
+    private static void oneLockAPackage() {
+        ConflictSolve x = Due.withPacks(6, 6, 6);
+        for (int pack = 0; pack < 3; pack++) {
+            x.lock(pack, 4);
+        }
+        x.lock(1, 0);
+        due.solves("the new lock", x, 4, 0, 4);
+        x.demand(1, 1, 1);
+        due.solves("the old lock is gone", x, 4, -1, 4);
+        x.lock(1, 5);
+        due.solves("one more", x, 4, 5, 4);
+        x.lock(1, -1);
+        due.solves("none", x, 4, -1, 4);
+    }
+
+    /** "No such package" is as by now: a lock can't come before its package. */
+    private static void packagesThatComeLater() {
+        ConflictSolve x = Due.withPacks(2);
+        due.is("lock of a package to come", x.lock(1, 0), false);
+        x.pack(2);
+        due.solves("it has no lock", x, -1, -1);
+        due.is("lock of it now", x.lock(1, 0), true);
+        due.solves("lock of it now", x, -1, 0);
+    }
+
+    private static int answer(ConflictSolve x, int pack, int version) {
+        return x.lock(pack, version) ? 1 : 0;
     }
 }

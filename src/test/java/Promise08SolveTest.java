@@ -1,3 +1,5 @@
+import java.util.function.Supplier;
+
 public final class Promise08SolveTest {
     private static final Due due = new Due("promise 8");
 
@@ -12,6 +14,10 @@ public final class Promise08SolveTest {
         cycles();
         noneIsRight();
         stateIsThatOfNow();
+        oneIfAllHaveNone();
+        oneOfAllChoices();
+        zeroThenNoneIsChosen();
+        solvingChangesNoQuestion();
         due.end();
     }
 
@@ -132,5 +138,63 @@ public final class Promise08SolveTest {
         due.solves("a new demand", x, 0, -1);
         x.leaveOut(1, true);
         due.solves("left out", x, 1, 0);
+    }
+
+    /** "Whether a CHOICE is RIGHT": without packages, or with packages that have no versions. */
+    private static void oneIfAllHaveNone() {
+        ConflictSolve x = new ConflictSolve();
+        due.is("no packages", x.solve(), 1);
+        for (int pack = 0; pack < 8; pack++) {
+            x.pack(0);
+            due.is((pack + 1) + " packages without versions", x.solve(), 1);
+        }
+        due.chosen("eight packages without versions", x, -1, -1, -1, -1, -1, -1, -1, -1);
+        x.demand(1, 3, 63);
+        x.demand(2, 3, 63);
+        due.is("conflict and peer are kept by NONE", x.solve(), 1);
+        x.demand(0, 3, 63);
+        due.is("a need isn't", x.solve(), 0);
+    }
+
+    /** "1, and the first one is chosen": also where just one of all choices is right. */
+    private static void oneOfAllChoices() {
+        for (int version = 0; version < 6; version++) {
+            ConflictSolve x = Due.withPacks(6, 6, 6, 6, 6, 6, 6, 6);
+            int[] want = new int[8];
+            for (int pack = 0; pack < 8; pack++) {
+                want[pack] = (version + pack) % 6;
+                x.demand(0, pack, 1 << want[pack]);
+            }
+            due.solves("just one choice is right", x, want);
+            x.row(0, version, 1, 7, 1 << want[7]);
+            due.is("none is right any more", x.solve(), 0);
+        }
+    }
+
+    /** "Or 0 (then none is)": of each package that had a version before. */
+    private static void zeroThenNoneIsChosen() {
+        ConflictSolve x = Due.withPacks(6, 6, 6, 6, 6, 6, 6, 6);
+        for (int pack = 0; pack < 8; pack++) {
+            x.demand(0, pack, 63);
+        }
+        due.solves("1", x, 5, 5, 5, 5, 5, 5, 5, 5);
+        x.demand(0, 7, 0);
+        due.is("0", x.solve(), 0);
+        due.chosen("none is chosen", x, -1, -1, -1, -1, -1, -1, -1, -1);
+        x.leaveOut(8, true);
+        due.solves("1 again", x, 5, 5, 5, 5, 5, 5, 5, 5);
+    }
+
+    /** All answers but chosen() are the same, whether solve() was called or not. */
+    private static void solvingChangesNoQuestion() {
+        for (Supplier<ConflictSolve> scene : Scenes.small()) {
+            ConflictSolve once = scene.get();
+            ConflictSolve often = scene.get();
+            once.solve();
+            for (int i = 0; i < 20; i++) {
+                often.solve();
+            }
+            due.same("solve() twenty times", often, once);
+        }
     }
 }

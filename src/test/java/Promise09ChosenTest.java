@@ -1,3 +1,5 @@
+import java.util.function.Supplier;
+
 public final class Promise09ChosenTest {
     private static final Due due = new Due("promise 9");
 
@@ -5,6 +7,11 @@ public final class Promise09ChosenTest {
         itIsThatOfTheLatestSolve();
         noSuchPackage();
         otherCallsLeaveIt();
+        noneBeforeAnySolve();
+        noneIfThereIsNoSuchPackage();
+        noneIfTheLatestWasZero();
+        noneIfThatWasGiven();
+        theOldestAndTheNewest();
         due.end();
     }
 
@@ -56,5 +63,74 @@ public final class Promise09ChosenTest {
         x.must(1);
         x.can(1, 0);
         due.chosen("asked while none is right", x, 2, -1);
+    }
+
+    /** "What the latest solve() that was 1 gave": there may have been no solve() yet. */
+    private static void noneBeforeAnySolve() {
+        ConflictSolve x = Due.withPacks(6, 6, 6, 6, 6, 6, 6, 6);
+        for (int pack = 0; pack < 8; pack++) {
+            x.demand(0, pack, 63);
+            x.lock(pack, 3);
+        }
+        x.blame();
+        x.can(0, 3);
+        x.must(0);
+        due.chosen("no solve() yet", x, -1, -1, -1, -1, -1, -1, -1, -1);
+    }
+
+    /** "NONE if .. there is no such package": below 0, behind the last, where a shift would wrap. */
+    private static void noneIfThereIsNoSuchPackage() {
+        Supplier<ConflictSolve> four = () -> {
+            ConflictSolve x = Due.withPacks(6, 6, 6, 6);
+            for (int pack = 0; pack < 4; pack++) {
+                x.demand(0, pack, 63);
+            }
+            x.solve();
+            return x;
+        };
+        for (int pack : Due.outside(0, 3)) {
+            due.refuses("of four: chosen(" + pack + ")", four, x -> x.chosen(pack), -1);
+        }
+        for (int pack : Due.outside(0, 7)) {
+            due.refuses("of eight: chosen(" + pack + ")", Scenes::fullByARow, x -> x.chosen(pack), -1);
+        }
+        due.chosen("the four", four.get(), 5, 5, 5, 5, -1);
+    }
+
+    /** "Or the latest one was 0": even if one before it, or a later question, says otherwise. */
+    private static void noneIfTheLatestWasZero() {
+        ConflictSolve x = Due.withPacks(3);
+        x.demand(0, 0, 7);
+        due.solves("1", x, 2);
+        x.demand(0, 0, 0);
+        due.is("0", x.solve(), 0);
+        due.chosen("the latest was 0", x, -1);
+        x.leaveOut(1, true);
+        due.is("can(0, 2)", x.can(0, 2), true);
+        due.blames("a choice is right", x);
+        due.chosen("the latest solve() was 0 still", x, -1);
+        due.solves("1 again", x, 2);
+    }
+
+    /** "NONE if that": given by solve(), to needed packages and to others. */
+    private static void noneIfThatWasGiven() {
+        ConflictSolve x = Due.withPacks(2, 2, 0);
+        x.demand(0, 0, 3);
+        x.leaveOut(0, true);
+        x.demand(1, 0, 3);
+        due.solves("needed, but NONE alone can be", x, -1, -1, -1);
+    }
+
+    /** Each version of each package is told apart. */
+    private static void theOldestAndTheNewest() {
+        for (int version = 0; version < 6; version++) {
+            for (int pack = 0; pack < 8; pack++) {
+                ConflictSolve x = Due.withPacks(6, 6, 6, 6, 6, 6, 6, 6);
+                x.lock(pack, version);
+                int[] want = {-1, -1, -1, -1, -1, -1, -1, -1};
+                want[pack] = version;
+                due.solves("version " + version + " of package " + pack, x, want);
+            }
+        }
     }
 }

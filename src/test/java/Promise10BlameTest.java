@@ -1,3 +1,5 @@
+import java.util.function.Supplier;
+
 public final class Promise10BlameTest {
     private static final Due due = new Due("promise 10");
 
@@ -9,6 +11,10 @@ public final class Promise10BlameTest {
         itIsAsByNow();
         rowsTakePart();
         allTwelve();
+        noneIfNothingCounts();
+        oneAlone();
+        theFirstAndTheLast();
+        itLeavesTheRest();
         due.end();
     }
 
@@ -106,5 +112,61 @@ public final class Promise10BlameTest {
         x.demand(0, 0, 63);
         x.or(1, 31);
         due.blames("all twelve", x, 0, 1, 2, 3, 4, 5, 6, 7, 8, 9, 10, 11);
+    }
+
+    /** "0 if a CHOICE is RIGHT": so also without packages, and with all demands left out. */
+    private static void noneIfNothingCounts() {
+        due.blames("no packages", new ConflictSolve());
+        ConflictSolve x = Due.withPacks(0, 1);
+        x.row(1, 0, 0, 0, 63);
+        due.blames("a row that can't hold, but needn't count", x);
+        x.demand(0, 0, 63);
+        due.blames("a demand that can't hold", x, 0);
+        x.leaveOut(0, true);
+        due.blames("left out", x);
+    }
+
+    /** A demand that can't be kept at all is to blame alone, whatever its number is. */
+    private static void oneAlone() {
+        for (int bad = 0; bad < 12; bad++) {
+            ConflictSolve x = Due.withPacks(6);
+            for (int i = 0; i < 12; i++) {
+                x.demand(0, 0, i == bad ? 0 : 63);
+            }
+            due.blames("just demand " + bad, x, bad);
+        }
+    }
+
+    /** "Gone through .. by number": of demands that are alike the last one stays. */
+    private static void theFirstAndTheLast() {
+        ConflictSolve x = Due.withPacks(6);
+        for (int i = 0; i < 6; i++) {
+            x.demand(0, 0, 1);
+        }
+        for (int i = 0; i < 6; i++) {
+            x.demand(0, 0, 2);
+        }
+        due.blames("the last of each", x, 5, 11);
+        x.leaveOut(11, true);
+        due.blames("11 is out", x, 5, 10);
+        x.leaveOut(5, true);
+        due.blames("5 is out, too", x, 4, 10);
+        for (int i = 0; i < 5; i++) {
+            x.leaveOut(i, true);
+        }
+        due.blames("all of one are out", x);
+    }
+
+    /** What is taken away to find those to blame counts again behind it. */
+    private static void itLeavesTheRest() {
+        for (Supplier<ConflictSolve> scene : Scenes.small()) {
+            ConflictSolve once = scene.get();
+            ConflictSolve often = scene.get();
+            once.blame();
+            for (int i = 0; i < 20; i++) {
+                often.blame();
+            }
+            due.same("blame() twenty times", often, once);
+        }
     }
 }

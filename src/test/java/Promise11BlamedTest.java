@@ -1,9 +1,14 @@
+import java.util.function.Supplier;
+
 public final class Promise11BlamedTest {
     private static final Due due = new Due("promise 11");
 
     public static void main(String[] args) {
         itIsThatOfTheLatestBlame();
         noSuchIndex();
+        noneBeforeAnyBlame();
+        noneBehindTheLast();
+        noneIfTheLatestWasZero();
         due.end();
     }
 
@@ -40,5 +45,57 @@ public final class Promise11BlamedTest {
         for (int i : none) {
             due.is("blamed(" + i + ")", x.blamed(i), -1);
         }
+    }
+
+    /** "The latest blame()": there may have been none yet. */
+    private static void noneBeforeAnyBlame() {
+        ConflictSolve x = Due.withPacks(1);
+        x.demand(0, 0, 0);
+        x.solve();
+        due.blamed("solve() was 0, but no blame() yet", x);
+    }
+
+    /** "NONE if there is none such": below 0, behind the last, and where a count would wrap. */
+    private static void noneBehindTheLast() {
+        for (int count = 0; count <= 6; count++) {
+            int blamed = count;
+            Supplier<ConflictSolve> scene = () -> blaming(blamed);
+            due.blamed(count + " to blame", scene.get(), firstNumbers(count));
+            for (int i : Due.outside(0, count - 1)) {
+                due.refuses(count + " to blame: blamed(" + i + ")", scene, x -> x.blamed(i), -1);
+            }
+        }
+    }
+
+    /** One demand wants a version of so many less one; each of the others takes one of them away. */
+    private static ConflictSolve blaming(int count) {
+        ConflictSolve x = Due.withPacks(6);
+        for (int version = 0; version < count - 1; version++) {
+            x.demand(1, 0, 1 << version);
+        }
+        if (count > 0) {
+            x.demand(0, 0, (1 << (count - 1)) - 1);
+        }
+        due.is("blame()", x.blame(), count);
+        return x;
+    }
+
+    private static int[] firstNumbers(int count) {
+        int[] all = new int[count];
+        for (int i = 0; i < count; i++) {
+            all[i] = i;
+        }
+        return all;
+    }
+
+    /** "That were to BLAME in the latest blame()": none if it was 0, though one before wasn't. */
+    private static void noneIfTheLatestWasZero() {
+        ConflictSolve x = blaming(4);
+        x.leaveOut(3, true);
+        due.blamed("the latest was 4", x, 0, 1, 2, 3);
+        due.blames("0 by now", x);
+        x.leaveOut(3, false);
+        due.is("solve()", x.solve(), 0);
+        due.blamed("the latest was 0", x);
     }
 }

@@ -1,3 +1,5 @@
+import java.util.function.Supplier;
+
 public final class Promise13MustTest {
     private static final Due due = new Due("promise 13");
 
@@ -5,6 +7,9 @@ public final class Promise13MustTest {
         noSuchPackage();
         allRightChoicesGiveOne();
         noRightChoice();
+        falseIfThereIsNoSuchPackage();
+        trueIfThereIsNoRightChoice();
+        askingChangesNothing();
         due.end();
     }
 
@@ -52,5 +57,51 @@ public final class Promise13MustTest {
         x.leaveOut(0, true);
         due.is("must(0)", x.must(0), false);
         due.is("must(1)", x.must(1), false);
+    }
+
+    /** "False if there is no such package": also if no choice is right. */
+    private static void falseIfThereIsNoSuchPackage() {
+        for (int needed = 0; needed < 2; needed++) {
+            int set = needed * 63;
+            Supplier<ConflictSolve> four = () -> {
+                ConflictSolve x = Due.withPacks(6, 6, 6, 6);
+                for (int pack = 0; pack < 4; pack++) {
+                    x.demand(0, pack, set);
+                }
+                return x;
+            };
+            for (int pack : Due.outside(0, 3)) {
+                String call = "demands of " + set + ": must(" + pack + ")";
+                due.refuses(call, four, x -> x.must(pack) ? 1 : 0, 0);
+            }
+            due.is("must(0)", four.get().must(0), true);
+            due.is("must(3)", four.get().must(3), true);
+        }
+    }
+
+    /** "Also if there are none": of all eight packages, with versions or without. */
+    private static void trueIfThereIsNoRightChoice() {
+        ConflictSolve x = Due.withPacks(0, 1, 2, 3, 4, 5, 6, 0);
+        x.demand(0, 3, 0);
+        for (int pack = 0; pack < 8; pack++) {
+            due.is("no right choice: must(" + pack + ")", x.must(pack), true);
+        }
+        due.is("no right choice: must(8)", x.must(8), false);
+        due.is("no right choice: must(-1)", x.must(-1), false);
+        x.leaveOut(0, true);
+        for (int pack = 0; pack < 8; pack++) {
+            due.is("all have NONE: must(" + pack + ")", x.must(pack), false);
+        }
+    }
+
+    /** What was chosen and blamed, and what is asked next, is as if nothing had been asked. */
+    private static void askingChangesNothing() {
+        for (Supplier<ConflictSolve> scene : Scenes.small()) {
+            ConflictSolve asked = scene.get();
+            for (int pack = -2; pack < 10; pack++) {
+                asked.must(pack);
+            }
+            due.same("must() was asked", asked, scene.get());
+        }
     }
 }
