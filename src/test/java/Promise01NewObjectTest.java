@@ -1,3 +1,5 @@
+import java.util.List;
+
 public final class Promise01NewObjectTest {
     private static final Due due = new Due("promise 1");
 
@@ -9,6 +11,7 @@ public final class Promise01NewObjectTest {
         noRows();
         noDemands();
         noLocks();
+        aNewObjectLeavesTheOthers();
         due.end();
     }
 
@@ -98,5 +101,23 @@ public final class Promise01NewObjectTest {
             x.demand(0, pack, 63);
         }
         due.solves("a new object, all needed", x, 5, 4, 3, 2, 1, 0, 5, 5);
+    }
+
+    /** Whatever an object holds is as it was when another one is made and used. */
+    private static void aNewObjectLeavesTheOthers() {
+        ConflictSolve alone = Scenes.behindARow();
+        List<String> want = Answers.of(alone);
+        ConflictSolve beside = Scenes.behindARow();
+        new ConflictSolve();
+        Answers.of(Scenes.fullByADemand());
+        Answers.of(Scenes.behindADemand());
+        due.is("beside other objects", Answers.of(beside).equals(want), true);
+
+        ConflictSolve x = Due.withPacks(2, 2);
+        x.row(0, 1, 1, 1, 2);
+        x.demand(0, 1, 3);
+        x.demand(0, 0, 3);
+        new ConflictSolve();
+        due.solves("its own order", x, 0, 1);
     }
 }

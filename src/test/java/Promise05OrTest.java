@@ -20,6 +20,7 @@ public final class Promise05OrTest {
         emptyAlternatives();
         alternativesOfLeftOutDemands();
         packagesThatComeLater();
+        packagesWithoutVersions();
         due.end();
     }
 
@@ -290,5 +291,18 @@ public final class Promise05OrTest {
 
     private static int answer(ConflictSolve x, int pack, int set) {
         return x.or(pack, set) ? 1 : 0;
+    }
+
+    /** A package without versions is there as well, though no version of it can be. */
+    private static void packagesWithoutVersions() {
+        ConflictSolve x = Due.withPacks(2, 0);
+        x.demand(0, 0, 1);
+        due.is("or of a demand, on a package without versions", x.or(1, 63), true);
+        due.solves("the first holds", x, 0, -1);
+        x.row(0, 0, 0, 1, 63);
+        due.is("or of a row, on a package without versions", x.or(1, 63), true);
+        due.is("the row can't hold", x.solve(), 0);
+        due.is("third of the row", x.or(0, 1), true);
+        due.solves("the third holds", x, 0, -1);
     }
 }

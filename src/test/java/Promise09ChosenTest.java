@@ -12,6 +12,7 @@ public final class Promise09ChosenTest {
         noneIfTheLatestWasZero();
         noneIfThatWasGiven();
         theOldestAndTheNewest();
+        eachOtherCallLeavesIt();
         due.end();
     }
 
@@ -132,5 +133,42 @@ public final class Promise09ChosenTest {
                 due.solves("version " + version + " of package " + pack, x, want);
             }
         }
+    }
+
+    /** "The latest solve()": no other call, taken or refused, changes what it gave. */
+    private static void eachOtherCallLeavesIt() {
+        ConflictSolve x = Due.withPacks(3, 3);
+        x.demand(0, 0, 7);
+        due.solves("1", x, 2, -1);
+        x.pack(2);
+        due.chosen("behind pack()", x, 2, -1, -1);
+        x.row(0, 2, 0, 1, 0);
+        due.chosen("behind row()", x, 2, -1, -1);
+        x.or(1, 2);
+        due.chosen("behind or() of a row", x, 2, -1, -1);
+        x.demand(0, 2, 0);
+        due.chosen("behind demand()", x, 2, -1, -1);
+        x.or(2, 1);
+        due.chosen("behind or() of a demand", x, 2, -1, -1);
+        x.leaveOut(0, true);
+        due.chosen("behind leaveOut()", x, 2, -1, -1);
+        x.lock(0, 1);
+        due.chosen("behind lock()", x, 2, -1, -1);
+        x.blame();
+        due.chosen("behind blame()", x, 2, -1, -1);
+        x.blamed(0);
+        x.can(1, 1);
+        due.chosen("behind can()", x, 2, -1, -1);
+        x.must(1);
+        due.chosen("behind must()", x, 2, -1, -1);
+        x.chosen(0);
+        x.pack(7);
+        x.row(3, 0, 0, 0, 0);
+        x.demand(3, 0, 0);
+        x.or(3, 1);
+        x.leaveOut(2, true);
+        x.lock(3, 0);
+        due.chosen("behind refused calls", x, 2, -1, -1);
+        due.solves("1 again", x, 1, -1, 0);
     }
 }

@@ -9,6 +9,7 @@ public final class Promise11BlamedTest {
         noneBeforeAnyBlame();
         noneBehindTheLast();
         noneIfTheLatestWasZero();
+        eachOtherCallLeavesIt();
         due.end();
     }
 
@@ -97,5 +98,39 @@ public final class Promise11BlamedTest {
         x.leaveOut(3, false);
         due.is("solve()", x.solve(), 0);
         due.blamed("the latest was 0", x);
+    }
+
+    /** "In the latest blame()": no other call, taken or refused, changes what it found. */
+    private static void eachOtherCallLeavesIt() {
+        ConflictSolve x = blaming(3);
+        x.pack(2);
+        due.blamed("behind pack()", x, 0, 1, 2);
+        x.row(0, 2, 0, 1, 0);
+        due.blamed("behind row()", x, 0, 1, 2);
+        x.or(1, 2);
+        due.blamed("behind or() of a row", x, 0, 1, 2);
+        x.demand(0, 1, 0);
+        due.blamed("behind demand()", x, 0, 1, 2);
+        x.or(1, 1);
+        due.blamed("behind or() of a demand", x, 0, 1, 2);
+        x.leaveOut(2, true);
+        due.blamed("behind leaveOut()", x, 0, 1, 2);
+        x.lock(0, 1);
+        due.blamed("behind lock()", x, 0, 1, 2);
+        due.is("solve()", x.solve(), 1);
+        due.blamed("behind solve()", x, 0, 1, 2);
+        x.chosen(0);
+        x.can(0, 1);
+        due.blamed("behind can()", x, 0, 1, 2);
+        x.must(0);
+        due.blamed("behind must()", x, 0, 1, 2);
+        x.pack(7);
+        x.row(2, 0, 0, 0, 0);
+        x.demand(3, 0, 0);
+        x.or(2, 1);
+        x.leaveOut(4, true);
+        x.lock(2, 0);
+        due.blamed("behind refused calls", x, 0, 1, 2);
+        due.blames("0 by now", x);
     }
 }
